@@ -1,0 +1,52 @@
+import java.util.Arrays;
+
+/** Counts the answers of a test class and ends it with 1 if one was not the one due. */
+final class Check {
+    private static int right = 0;
+    private static int wrong = 0;
+    private static String promise = "";
+
+    private Check() {
+    }
+
+    static void promise(int number, String name) {
+        promise = "promise " + number + " (" + name + "): ";
+    }
+
+    static void due(String call, long got, long want) {
+        if (got == want) {
+            right++;
+        } else {
+            wrong++;
+            System.out.println(promise + call + " answered " + got + ", due is " + want);
+        }
+    }
+
+    static void holds(String what, boolean so) {
+        if (so) {
+            right++;
+        } else {
+            wrong++;
+            System.out.println(promise + "does not hold: " + what);
+        }
+    }
+
+    static void alike(String what, Object got, Object want) {
+        holds(what + ": got " + got + ", due is " + want, got.equals(want));
+    }
+
+    static void alike(String what, int[] got, int... want) {
+        alike(what, Arrays.toString(got), Arrays.toString(want));
+    }
+
+    static int wrong() {
+        return wrong;
+    }
+
+    static void end(String name) {
+        System.out.println(name + ": " + right + " right, " + wrong + " wrong");
+        if (wrong != 0 || right == 0) {
+            System.exit(1);
+        }
+    }
+}
