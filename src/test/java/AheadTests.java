@@ -161,6 +161,12 @@ public final class AheadTests {
         Check.due("none", x.soonest(0), NONE);
         Check.due("asked() stays", x.asked(), 7);
         Check.due("aside", Boards.fact(x, 0, 2), 7);
+        FlapBoard y = Boards.of("1 f00 f00 f00 f00 f00 f00 f00");
+        Boards.fill(y, 0, 9999997, 9999996);
+        Check.due("61 are too many, 60 are not", y.soonest(0), 1);
+        Check.due("asked()", y.asked(), 60);
+        Boards.fill(y, 0, 9999997);
+        Check.due("61 are too many", y.soonest(0), NONE);
     }
 
     private static void order() {

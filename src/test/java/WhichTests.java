@@ -111,6 +111,8 @@ public final class WhichTests {
         testDue(x, 0, 1, 1, 4);
         testDue(x, 1, 1, 6, 0, 0);
         Boards.fill(x, 0, 5);
+        FlapBoard y = Boards.aimed("1 f00 f00 f00 f05", 9, 9, 1, 8);
+        testDue(y, 3, 20, 2, 0);
         x.drum(0, 2);
         Check.due("no kind", x.test(0, 0), NONE);
         Check.due("asked() stays", x.asked(), 6);
