@@ -40,6 +40,9 @@ public final class ChanceTests {
         Check.due("not within 60", v.duel(0), 61);
         Check.due("not within 60", v.duel(1), 61);
         Check.due("63 less 9", v.duel(2), 54);
+        // With little power a drum that turns on can serve better than one that stays (13, 25 by such alone).
+        Check.due("the best answer does not stay", Boards.aimed("2f05b07t44k10", 3, 3, 8, 0).duel(2), 12);
+        Check.due("the best answer does not stay", Boards.aimed("3f75f21t59t11s88", 6, 7, 4, 0, 6).duel(2), 23);
     }
 
     private static void share(FlapBoard x, String call, int answer, long upper, long lower) {
