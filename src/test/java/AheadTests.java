@@ -178,16 +178,16 @@ public final class AheadTests {
         Boards.fill(x, 0, 30, 10, 20);
         long before = x.digest();
         Check.due("10 20 30", x.order(0, 3), 3);
-        Check.alike("the order", Boards.row(x, 3), 1, 2, 0);
+        Check.ints("the order", Boards.row(x, 3), 1, 2, 0);
         x.tear(3);
         Check.due("aside", x.digest(), before);
         Boards.fill(x, 0, 20, 20, 0);
         Check.due("0 20 20", x.order(0, 0), 2);
-        Check.alike("of several the first, into the same row", Boards.row(x, 0), 2, 0, 1);
+        Check.ints("of several the first, into the same row", Boards.row(x, 0), 2, 0, 1);
         Boards.fill(x, 0, 11, 11, 11, 11, 11);
         Boards.fill(x, 1, 1, 2, 3, 4, 5, 6, 7);
         Check.due("all alike", x.order(0, 1), 1);
-        Check.alike("places rising, the row anew", Boards.row(x, 1), 0, 1, 2, 3, 4);
+        Check.ints("places rising, the row anew", Boards.row(x, 1), 0, 1, 2, 3, 4);
         FlapBoard y = Boards.of("9 s00 f00");
         Boards.fill(y, 0, 10, 20);
         Check.due("a slow one: behind 10 it is tick 1", y.order(0, 1), 3);
@@ -195,13 +195,13 @@ public final class AheadTests {
         Boards.fill(y, 0, 1, 11);
         Boards.fill(y, 1, 8, 9);
         Check.due("none", y.order(0, 1), NONE);
-        Check.alike("the row stays", Boards.row(y, 1), 8, 9);
+        Check.ints("the row stays", Boards.row(y, 1), 8, 9);
         FlapBoard z = Boards.of("1 f00 f00 f00 f00 f00 f00 f00");
         Boards.fill(z, 0, 9999996, 8888888);
         Check.due("56, then 14 more: each has 60 of its own", z.order(0, 1), 70);
-        Check.alike("the order", Boards.row(z, 1), 1, 0);
+        Check.ints("the order", Boards.row(z, 1), 1, 0);
         Boards.fill(z, 0, 9999999, 1111111);
         Check.due("63 at once are too many, behind 7 they are 56", z.order(0, 1), 63);
-        Check.alike("the order", Boards.row(z, 1), 1, 0);
+        Check.ints("the order", Boards.row(z, 1), 1, 0);
     }
 }

@@ -45,12 +45,6 @@ public final class ChanceTests {
         Check.due("the best answer does not stay", Boards.aimed("3f75f21t59t11s88", 6, 7, 4, 0, 6).duel(2), 23);
     }
 
-    private static void share(FlapBoard x, String call, int answer, long upper, long lower) {
-        Check.due(call, answer, 1);
-        Check.due("upper() behind " + call, x.upper(), upper);
-        Check.due("lower() behind " + call, x.lower(), lower);
-    }
-
     private static void odds() {
         Check.promise(31, "odds");
         Check.due("without drums", new FlapBoard().odds(0, 0, 0), STATE);
@@ -63,26 +57,26 @@ public final class ChanceTests {
         Check.due("odds(0, 0, -1)", x.odds(0, 0, -1), BAD);
         Check.due("odds(0, 0, 13)", x.odds(0, 0, 13), BAD);
         Check.due("lower() before", x.lower(), 1);
-        share(x, "odds(0, 0, 5)", x.odds(0, 0, 5), 1, 1);
-        share(x, "odds(1, 0, 12): one is right as it is", x.odds(1, 0, 12), 1, 1);
-        share(x, "odds(2, 0, 0)", x.odds(2, 0, 0), 0, 1);
-        share(x, "odds(2, 1, 0)", x.odds(2, 1, 0), 1, 1);
-        share(x, "odds(2, 1, 3): the first one does not jam", x.odds(2, 1, 3), 3, 4);
-        share(x, "odds(3, 2, 3): the second one takes three", x.odds(3, 2, 3), 0, 1);
-        share(x, "odds(3, 3, 3): neither jams", x.odds(3, 3, 3), 9, 16);
-        share(x, "odds(2, 3, 3): one of them does not", x.odds(2, 3, 3), 15, 16);
-        share(x, "odds(2, 20, 12)", x.odds(2, 20, 12), 0, 1);
-        share(x, "odds(4, 20, 0): there are three", x.odds(4, 20, 0), 0, 1);
-        share(x, "odds(3, 20, 5)", x.odds(3, 20, 5), 49, 144);
+        Check.share(x, "odds(0, 0, 5)", x.odds(0, 0, 5), 1, 1);
+        Check.share(x, "odds(1, 0, 12): one is right as it is", x.odds(1, 0, 12), 1, 1);
+        Check.share(x, "odds(2, 0, 0)", x.odds(2, 0, 0), 0, 1);
+        Check.share(x, "odds(2, 1, 0)", x.odds(2, 1, 0), 1, 1);
+        Check.share(x, "odds(2, 1, 3): the first one does not jam", x.odds(2, 1, 3), 3, 4);
+        Check.share(x, "odds(3, 2, 3): the second one takes three", x.odds(3, 2, 3), 0, 1);
+        Check.share(x, "odds(3, 3, 3): neither jams", x.odds(3, 3, 3), 9, 16);
+        Check.share(x, "odds(2, 3, 3): one of them does not", x.odds(2, 3, 3), 15, 16);
+        Check.share(x, "odds(2, 20, 12)", x.odds(2, 20, 12), 0, 1);
+        Check.share(x, "odds(4, 20, 0): there are three", x.odds(4, 20, 0), 0, 1);
+        Check.share(x, "odds(3, 20, 5)", x.odds(3, 20, 5), 49, 144);
         x.jam(0);
-        share(x, "odds(2, 3, 3): the first one is jammed", x.odds(2, 3, 3), 3, 4);
-        share(x, "odds(3, 3, 0)", x.odds(3, 3, 0), 0, 1);
+        Check.share(x, "odds(2, 3, 3): the first one is jammed", x.odds(2, 3, 3), 3, 4);
+        Check.share(x, "odds(3, 3, 0)", x.odds(3, 3, 0), 0, 1);
         FlapBoard y = Boards.aimed("1 f00 f00", 2, 2);
-        share(y, "odds(1, 2, 6): whichever has the power", y.odds(1, 2, 6), 3, 4);
-        share(y, "odds(2, 3, 0)", y.odds(2, 3, 0), 0, 1);
+        Check.share(y, "odds(1, 2, 6): whichever has the power", y.odds(1, 2, 6), 3, 4);
+        Check.share(y, "odds(2, 3, 0)", y.odds(2, 3, 0), 0, 1);
         FlapBoard z = Boards.aimed("9 f00 f00 f00 f00 f00 f00 f00", 1, 1, 1, 1, 1, 1, 1);
-        share(z, "odds(7, 1, 1)", z.odds(7, 1, 1), 19487171, 35831808);
-        share(z, "odds(1, 1, 11)", z.odds(1, 1, 11), 35831808 - 19487171, 35831808);
+        Check.share(z, "odds(7, 1, 1)", z.odds(7, 1, 1), 19487171, 35831808);
+        Check.share(z, "odds(1, 1, 11)", z.odds(1, 1, 11), 35831808 - 19487171, 35831808);
         Check.due("aside", z.count(5), 0);
     }
 
@@ -95,19 +89,19 @@ public final class ChanceTests {
         Check.due("mid(21, 0)", x.mid(21, 0), BAD);
         Check.due("mid(0, -1)", x.mid(0, -1), BAD);
         Check.due("mid(0, 13)", x.mid(0, 13), BAD);
-        share(x, "mid(0, 5)", x.mid(0, 5), 1, 1);
-        share(x, "mid(1, 5)", x.mid(1, 5), 19, 12);
-        share(x, "mid(3, 5)", x.mid(3, 5), 13, 6);
-        share(x, "mid(3, 12)", x.mid(3, 12), 1, 1);
-        share(x, "mid(3, 0)", x.mid(3, 0), 3, 1);
+        Check.share(x, "mid(0, 5)", x.mid(0, 5), 1, 1);
+        Check.share(x, "mid(1, 5)", x.mid(1, 5), 19, 12);
+        Check.share(x, "mid(3, 5)", x.mid(3, 5), 13, 6);
+        Check.share(x, "mid(3, 12)", x.mid(3, 12), 1, 1);
+        Check.share(x, "mid(3, 0)", x.mid(3, 0), 3, 1);
         x.aim(2, 9);
-        share(x, "mid(0, 6)", x.mid(0, 6), 0, 1);
+        Check.share(x, "mid(0, 6)", x.mid(0, 6), 0, 1);
         FlapBoard y = Boards.aimed("1 f00 f00", 2, 2);
-        share(y, "mid(2, 6)", y.mid(2, 6), 3, 4);
-        share(y, "mid(4, 6)", y.mid(4, 6), 1, 1);
+        Check.share(y, "mid(2, 6)", y.mid(2, 6), 3, 4);
+        Check.share(y, "mid(4, 6)", y.mid(4, 6), 1, 1);
         y.jam(0);
         y.jam(1);
-        share(y, "mid(20, 6): all jammed", y.mid(20, 6), 0, 1);
+        Check.share(y, "mid(20, 6): all jammed", y.mid(20, 6), 0, 1);
     }
 
     private static void lots() {

@@ -13,6 +13,11 @@ final class Check {
         promise = "promise " + number + " (" + name + "): ";
     }
 
+    /** For a sentence that stands under 'Terms'. */
+    static void terms(String sentence) {
+        promise = "terms (" + sentence + "): ";
+    }
+
     static void due(String call, long got, long want) {
         if (got == want) {
             right++;
@@ -20,6 +25,13 @@ final class Check {
             wrong++;
             System.out.println(promise + call + " answered " + got + ", due is " + want);
         }
+    }
+
+    /** A call that tells a chance or a mean. */
+    static void share(FlapBoard x, String call, int answer, long upper, long lower) {
+        due(call, answer, 1);
+        due("upper() behind " + call, x.upper(), upper);
+        due("lower() behind " + call, x.lower(), lower);
     }
 
     static void holds(String what, boolean so) {
@@ -35,7 +47,7 @@ final class Check {
         holds(what + ": got " + got + ", due is " + want, got.equals(want));
     }
 
-    static void alike(String what, int[] got, int... want) {
+    static void ints(String what, int[] got, int... want) {
         alike(what, Arrays.toString(got), Arrays.toString(want));
     }
 

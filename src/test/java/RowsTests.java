@@ -84,7 +84,7 @@ public final class RowsTests {
         found(x, "lay(2, 3, 1)", x.lay(2, 3, 1), BEYOND);
         found(x, "lay(2, -1, 1)", x.lay(2, -1, 1), BEYOND);
         found(x, "lay(2, high, 1)", x.lay(2, HIGH, 1), BEYOND);
-        Check.alike("row 2", Boards.row(x, 2), 5, 0, 9);
+        Check.ints("row 2", Boards.row(x, 2), 5, 0, 9);
     }
 
     private static void at() {
@@ -123,11 +123,11 @@ public final class RowsTests {
         Boards.fill(x, 0, 1, 2, 3, 4, 5);
         Boards.fill(x, 1, 10, 20, 30);
         Check.due("copy(0, 1, 1, 0, 2)", x.copy(0, 1, 1, 0, 2), 1);
-        Check.alike("row 1", Boards.row(x, 1), 2, 3, 30);
+        Check.ints("row 1", Boards.row(x, 1), 2, 3, 30);
         Check.due("copy(0, 0, 0, 1, 4): onto itself", x.copy(0, 0, 0, 1, 4), 1);
-        Check.alike("row 0", Boards.row(x, 0), 1, 1, 2, 3, 4);
+        Check.ints("row 0", Boards.row(x, 0), 1, 1, 2, 3, 4);
         Check.due("copy(0, 2, 0, 0, 3): and back", x.copy(0, 2, 0, 0, 3), 1);
-        Check.alike("row 0", Boards.row(x, 0), 2, 3, 4, 3, 4);
+        Check.ints("row 0", Boards.row(x, 0), 2, 3, 4, 3, 4);
         Check.due("copy(0, 5, 1, 3, 0): none from the end", x.copy(0, 5, 1, 3, 0), 1);
         Check.due("copy(6, 0, 0, 0, -1)", x.copy(6, 0, 0, 0, -1), BAD);
         Check.due("copy(0, 0, -1, 0, 1)", x.copy(0, 0, -1, 0, 1), BAD);
@@ -141,8 +141,8 @@ public final class RowsTests {
         found(x, "copy(0, 6, 1, 0, 0)", x.copy(0, 6, 1, 0, 0), BEYOND);
         found(x, "copy(0, high, 1, 0, high)", x.copy(0, HIGH, 1, 0, HIGH), BEYOND);
         found(x, "copy(0, low, 1, 0, high)", x.copy(0, LOW, 1, 0, HIGH), BEYOND);
-        Check.alike("row 0 stays", Boards.row(x, 0), 2, 3, 4, 3, 4);
-        Check.alike("row 1 stays", Boards.row(x, 1), 2, 3, 30);
+        Check.ints("row 0 stays", Boards.row(x, 0), 2, 3, 4, 3, 4);
+        Check.ints("row 1 stays", Boards.row(x, 1), 2, 3, 30);
     }
 
     private static void mean() {
