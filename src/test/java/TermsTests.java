@@ -17,6 +17,7 @@ public final class TermsTests {
         signs();
         drumsOfAText();
         endsOfAText();
+        figuresOfAText();
         kindsAndLetters();
         everyTurn();
         turnsAtTheWrap();
@@ -30,6 +31,7 @@ public final class TermsTests {
         fortyDeeds();
         aside();
         beyondTick99();
+        showedFromNowOn();
         Check.end("TermsTests");
     }
 
@@ -246,6 +248,29 @@ public final class TermsTests {
         faultDue(" ".repeat(59) + "1", 60);
         faultDue(" ".repeat(59) + "0", 59);
         faultDue("1" + " ".repeat(54) + "f00f0", 60);
+    }
+
+    private static void figuresOfAText() {
+        Check.terms("A BOARD (without DRUMS at first) is a TEXT");
+        Check.due("DRUMS, though there is a TEXT of some", Scenes.papers().count(0), 0);
+        Check.terms("the POWER (a figure 1 .. 9)");
+        for (int p = 1; p <= 9; p++) {
+            Check.due("the POWER", Boards.of(p + "f00f00").count(7), p);
+            faultDue(p + "0f00f00", 1);
+        }
+        faultDue("0f00f00", 0);
+        Check.terms("each a letter, the figure that it SHOWS (0 .. 9), its MARK (0 .. 9; one figure each)");
+        for (int f = 0; f <= 9; f++) {
+            FlapBoard x = Boards.of("1f" + f + (9 - f) + "f00");
+            Check.due("what it SHOWS", Boards.fact(x, 0, 1), f);
+            Check.due("its MARK", Boards.fact(x, 0, 3), 9 - f);
+            faultDue("1f00" + f + "f00", 4);
+            faultDue("1f0f0" + f, 3);
+            faultDue("1" + f + "f00f00", 1);
+        }
+        faultDue("1ff00f00", 2);
+        faultDue("1f-1f00", 2);
+        faultDue("1f0-1f00", 3);
     }
 
     // ---- kinds of drums
@@ -539,5 +564,24 @@ public final class TermsTests {
         slow.tick();
         Check.due("order(0, 1) from an even TICK on", slow.order(0, 1), 299);
         Check.due("no TICK goes by", slow.count(1), 40);
+    }
+
+    private static void showedFromNowOn() {
+        Check.terms("(a ROW of 1 to 20 figures: what it SHOWED behind 1, 2, .. TICKS from now on)");
+        FlapBoard x = Boards.aimed("9f05f00", 3);
+        kindsDue(x, 0, 0);
+        kindsDue(x, 0b010111, 1);
+        kindsDue(x, 0b000101, 1, 2, 3);
+        x.tick();
+        kindsDue(x, 0b010010, 1);
+        kindsDue(x, 0b000101, 2);
+        kindsDue(x, 0b000101, 2, 3);
+        kindsDue(x, 0, 1, 2, 3, 3);
+        kindsDue(x, 0b010010, 1, 2, 2, 3);
+    }
+
+    private static void kindsDue(FlapBoard x, int want, int... showed) {
+        Boards.fill(x, 0, showed);
+        Check.due("kinds in TICK " + x.count(1) + " by " + showed.length + ", the first " + showed[0], x.kinds(0, 0), want);
     }
 }
